@@ -78,12 +78,9 @@ public final class LayeredTree {
     // Looking at the tree
 
     public int kind(int path) {
-        if (!mounted) {
-            return UNMOUNTED;
-        }
-        int place = Places.ofPath(path);
-        if (place == Places.NO_PLACE) {
-            return BAD;
+        int place = placeOrRefusal(path);
+        if (place < 0) {
+            return place;
         }
         int found = find(place);
         if (found == NOTHING) {
@@ -93,12 +90,9 @@ public final class LayeredTree {
     }
 
     public int read(int path) {
-        if (!mounted) {
-            return UNMOUNTED;
-        }
-        int place = Places.ofPath(path);
-        if (place == Places.NO_PLACE) {
-            return BAD;
+        int place = placeOrRefusal(path);
+        if (place < 0) {
+            return place;
         }
         int found = find(place);
         if (found == NOTHING) {
@@ -108,12 +102,12 @@ public final class LayeredTree {
     }
 
     public int size(int path) {
-        int place = listedPlace(path);
+        int place = directoryPlaceOrRefusal(path);
         return place < 0 ? place : countIn(place, find(place));
     }
 
     public int name(int path, int i) {
-        int place = listedPlace(path);
+        int place = directoryPlaceOrRefusal(path);
         if (place < 0) {
             return place;
         }
@@ -135,12 +129,9 @@ public final class LayeredTree {
     }
 
     public int origin(int path) {
-        if (!mounted) {
-            return UNMOUNTED;
-        }
-        int place = Places.ofPath(path);
-        if (place <= Places.ROOT) {
-            return BAD;
+        int place = objectPlaceOrRefusal(path);
+        if (place < 0) {
+            return place;
         }
         int found = find(place);
         return found == NOTHING ? NONE : originOf(found);
@@ -149,12 +140,9 @@ public final class LayeredTree {
     // Requests
 
     public int makeDir(int path) {
-        if (!mounted) {
-            return UNMOUNTED;
-        }
-        int place = Places.ofPath(path);
-        if (place <= Places.ROOT) {
-            return BAD;
+        int place = objectPlaceOrRefusal(path);
+        if (place < 0) {
+            return place;
         }
         if (!isDirectory(find(Places.parent(place)))) {
             return NO_PARENT;
@@ -168,11 +156,11 @@ public final class LayeredTree {
     }
 
     public int write(int path, int value) {
-        if (!mounted) {
-            return UNMOUNTED;
+        int place = objectPlaceOrRefusal(path);
+        if (place < 0) {
+            return place;
         }
-        int place = Places.ofPath(path);
-        if (place <= Places.ROOT || value < 0) {
+        if (value < 0) {
             return BAD;
         }
         if (!isDirectory(find(Places.parent(place)))) {
@@ -191,12 +179,9 @@ public final class LayeredTree {
     }
 
     public int remove(int path) {
-        if (!mounted) {
-            return UNMOUNTED;
-        }
-        int place = Places.ofPath(path);
-        if (place <= Places.ROOT) {
-            return BAD;
+        int place = objectPlaceOrRefusal(path);
+        if (place < 0) {
+            return place;
         }
         int found = find(place);
         if (found == NOTHING) {
@@ -211,13 +196,13 @@ public final class LayeredTree {
     }
 
     public int rename(int from, int to) {
-        if (!mounted) {
-            return UNMOUNTED;
+        int source = objectPlaceOrRefusal(from);
+        int target = objectPlaceOrRefusal(to);
+        if (source < 0) {
+            return source;
         }
-        int source = Places.ofPath(from);
-        int target = Places.ofPath(to);
-        if (source <= Places.ROOT || target <= Places.ROOT) {
-            return BAD;
+        if (target < 0) {
+            return target;
         }
         if (find(source) == NOTHING) {
             return NONE;
@@ -267,6 +252,33 @@ public final class LayeredTree {
 
     public int copies() {
         return copyUps;
+    }
+
+    // Paths as calls give them: a place is never negative and a refusal always is, so one number can be either.
+
+    private int placeOrRefusal(int path) {
+        if (!mounted) {
+            return UNMOUNTED;
+        }
+        int place = Places.ofPath(path);
+        return place == Places.NO_PLACE ? BAD : place;
+    }
+
+    private int objectPlaceOrRefusal(int path) {
+        int place = placeOrRefusal(path);
+        return place == Places.ROOT ? BAD : place;
+    }
+
+    private int directoryPlaceOrRefusal(int path) {
+        int place = placeOrRefusal(path);
+        if (place < 0) {
+            return place;
+        }
+        int found = find(place);
+        if (found == NOTHING) {
+            return NONE;
+        }
+        return isFile(found) ? IS_FILE : place;
     }
 
     // Layers and their bounds
@@ -364,21 +376,6 @@ public final class LayeredTree {
     private boolean isCovered(int place) {
         int partsOfParent = find(Places.parent(place));
         return isDirectory(partsOfParent) && findAmong(partsOfParent & ~partOf(top), place) != NOTHING;
-    }
-
-    private int listedPlace(int path) {
-        if (!mounted) {
-            return UNMOUNTED;
-        }
-        int place = Places.ofPath(path);
-        if (place == Places.NO_PLACE) {
-            return BAD;
-        }
-        int found = find(place);
-        if (found == NOTHING) {
-            return NONE;
-        }
-        return isFile(found) ? IS_FILE : place;
     }
 
     private int countIn(int place, int parts) {
@@ -493,6 +490,7 @@ public final class LayeredTree {
     }
 
     private int depthOfNoted() {
+        // Places go level by level, so the last object that was noted is one of the deepest.
         int depth = 0;
         for (int inner = 0; inner < noted.length; inner++) {
             if (noted[inner] != NOTHING) {
@@ -585,6 +583,7 @@ public final class LayeredTree {
             return ~value;
         }
 
+        /** Nothing at a place that there is not: a directory with four names is asked for what is in it, too. */
         int kindAt(int place) {
             if (place < 0 || place >= cells.length) {
                 return NOTHING;

@@ -79,6 +79,8 @@ public final class LayersTest {
             "put 0 54 2 0 = 1", "put 0 55 1 1 = 0", "put 0 541 4 0 = 0", "put 0 511 2 0 = 0", "entries 0 = 30",
             "entries 1 = 30", "put 2 1 2 0 = 1", "put 2 11 1 1 = 1", "entries 2 = 2", "mount = 1", "entries 0 = 30",
             "entries 1 = 30", "entry 0 54 = 2", "entry 0 511 = 0"));
+        Runs.run("upper entries take no room of the lower ones", Runs.rows(fiftyNineLowerEntries, "put 2 1 2 0 = 1",
+            "put 2 2 4 0 = 1", "put 0 54 1 1 = 1", "put 0 55 1 1 = 0", "entries 0 = 30", "entries 2 = 2"));
         Runs.run("a refused put takes no room", Runs.rows(fiftyNineLowerEntries, "put 1 51 1 1 = 0",
             "put 0 54 1 -1 = 0", "put 0 54 1 1 = 1", "put 0 55 1 1 = 0", "entries 0 = 30"));
         Runs.run("the 61st lower entry in a layer of its own", Runs.rows("new 3", "put 2 1 2 0 = 1", "put 2 2 2 0 = 1",

@@ -9,6 +9,7 @@ public final class TreeTest {
         root();
         plainTree();
         higherLayersDecide();
+        nothingIsInAFile();
         opaqueDirectories();
         endsOfMerging();
         whiteoutsBelowDirectories();
@@ -66,6 +67,15 @@ public final class TreeTest {
             "read 1 = 13", "origin 1 = 3", "kind 2 = 0", "read 2 = NONE", "origin 2 = NONE", "read 3 = 32",
             "origin 3 = 2", "kind 4 = 2", "origin 4 = 1", "read 41 = 41", "size 4 = 1", "read 5 = 53", "kind 51 = 0",
             "origin 5 = 3", "objects = 5", "size 0 = 4");
+    }
+
+    private static void nothingIsInAFile() {
+        for (int layer = 1; layer <= 3; layer++) {
+            Runs.run("a file in layer " + layer + " over directories", "new 3", "put 0 1 2 0 = 1", "put 0 11 2 0 = 1",
+                "put 0 111 1 1 = 1", "put " + layer + " 1 1 5 = 1", "mount = 1", "read 1 = 5", "origin 1 = " + layer,
+                "kind 11 = 0", "kind 111 = 0", "read 111 = NONE", "size 11 = NONE", "origin 11 = NONE", "objects = 1",
+                "write 11 1 = NO_PARENT", "makeDir 112 = NO_PARENT", "remove 111 = NONE", "rename 11 2 = NONE");
+        }
     }
 
     private static void opaqueDirectories() {
