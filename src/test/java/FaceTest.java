@@ -1,5 +1,6 @@
 import java.lang.reflect.Constructor;
 import java.lang.reflect.Field;
+import java.lang.reflect.Member;
 import java.lang.reflect.Method;
 import java.lang.reflect.Modifier;
 import java.util.Set;
@@ -10,17 +11,17 @@ public final class FaceTest {
     public static void main(String[] args) {
         Set<String> face = new TreeSet<>();
         for (Field field : LayeredTree.class.getDeclaredFields()) {
-            if (!Modifier.isPrivate(field.getModifiers())) {
+            if (isVisible(field)) {
                 face.add(field.toString());
             }
         }
         for (Constructor<?> constructor : LayeredTree.class.getDeclaredConstructors()) {
-            if (!Modifier.isPrivate(constructor.getModifiers())) {
+            if (isVisible(constructor)) {
                 face.add(constructor.toString());
             }
         }
         for (Method method : LayeredTree.class.getDeclaredMethods()) {
-            if (!Modifier.isPrivate(method.getModifiers())) {
+            if (isVisible(method)) {
                 face.add(method.toString());
             }
         }
@@ -53,5 +54,10 @@ public final class FaceTest {
         Runs.due("the class is public and final",
             LayeredTree.class.getModifiers() & (Modifier.PUBLIC | Modifier.FINAL), Modifier.PUBLIC | Modifier.FINAL);
         Runs.end();
+    }
+
+    /** What the compiler adds by itself is not in the source, so it is no part of the face. */
+    private static boolean isVisible(Member member) {
+        return !Modifier.isPrivate(member.getModifiers()) && !member.isSynthetic();
     }
 }

@@ -155,7 +155,7 @@ public final class ModelTest {
             return;
         }
         int due = plain.call(name, arguments);
-        int got = Runs.call(tree, name, arguments);
+        int got = new Call(name, arguments).on(tree);
         calls.add(name + Arrays.toString(arguments) + " = " + got);
         MET.add(name + " = " + due);
         if (got != due) {
