@@ -12,6 +12,7 @@ public final class TreeTest {
         nothingIsInAFile();
         opaqueDirectories();
         endsOfMerging();
+        endsInEachLayer();
         whiteoutsBelowDirectories();
         names();
         deepest();
@@ -102,6 +103,41 @@ public final class TreeTest {
             "mount = 1", "kind 1 = 2", "kind 11 = 0", "read 12 = 2", "size 1 = 1", "kind 2 = 2", "kind 21 = 0",
             "read 22 = 2", "size 2 = 1", "read 31 = 1", "read 32 = 2", "size 3 = 2", "origin 3 = 3", "kind 4 = 2",
             "size 4 = 0", "origin 4 = 3", "objects = 8");
+    }
+
+    /** At 1 directories in all layers but one, which has each kind of entry; the files in them are named after the layers. */
+    private static void endsInEachLayer() {
+        for (int upper = 1; upper <= 3; upper++) {
+            for (int other = 0; other <= upper; other++) {
+                for (int kind : new int[] {0, 1, 2, 3, 4}) {
+                    endsInLayer(upper, other, kind);
+                }
+            }
+        }
+    }
+
+    private static void endsInLayer(int upper, int other, int kind) {
+        String[] rows = {"new " + upper};
+        for (int layer = 0; layer <= upper; layer++) {
+            int kindHere = layer == other ? kind : 2;
+            if (kindHere != 0) {
+                rows = Runs.rows(rows, "put " + layer + " 1 " + kindHere + " 9 = 1");
+            }
+            if (kindHere == 2 || kindHere == 3) {
+                rows = Runs.rows(rows, "put " + layer + " " + (11 + layer) + " 1 " + layer + " = 1");
+            }
+        }
+        rows = Runs.rows(rows, "mount = 1");
+        boolean isDirectory = other < upper || kind != 1 && kind != 4;
+        for (int layer = 0; layer <= upper; layer++) {
+            boolean isPart = isDirectory && (layer > other || layer == other && (kind == 2 || kind == 3)
+                || layer < other && (kind == 0 || kind == 2));
+            rows = Runs.rows(rows, "read " + (11 + layer) + " = " + (isPart ? layer : "NONE"));
+        }
+        int origin = other == upper && kind == 0 ? upper - 1 : upper;
+        boolean isNothing = other == upper && kind == 4;
+        Runs.run("Terms: an entry of kind " + kind + " in layer " + other, Runs.rows(rows,
+            "kind 1 = " + (isDirectory ? 2 : kind == 1 ? 1 : 0), "origin 1 = " + (isNothing ? "NONE" : origin)));
     }
 
     private static void whiteoutsBelowDirectories() {
