@@ -14,7 +14,7 @@ public final class CopiesTest {
         Runs.run("rename and makeDir copy no files", "new 1", "put 0 1 2 0 = 1", "put 0 11 1 1 = 1", "put 0 2 1 1 = 1",
             "put 0 3 1 1 = 1", "mount = 1", "rename 1 4 = 0", "copies = 0", "rename 2 3 = 0", "copies = 0",
             "makeDir 1 = 0", "copies = 0");
-        Runs.run("what goes and is raised again is counted again", "new 1", "put 0 1 2 0 = 1", "put 0 11 1 1 = 1",
+        Runs.run("what is in the upper layer already is not counted again", "new 1", "put 0 1 2 0 = 1", "put 0 11 1 1 = 1",
             "put 0 2 2 0 = 1", "mount = 1", "write 21 1 = 0", "copies = 1", "remove 21 = 0", "write 22 1 = 0",
             "copies = 1", "write 11 1 = 0", "copies = 3", "remove 11 = 0", "write 11 1 = 0", "copies = 3");
         Runs.run("refused requests", "new 1", "put 0 1 2 0 = 1", "put 0 11 2 0 = 1", "put 0 111 1 1 = 1", "mount = 1",

@@ -5,6 +5,7 @@ public final class LayersTest {
 
     public static void main(String[] args) {
         newObjects();
+        objectsBesideEachOther();
         putting();
         refusedPuts();
         parentsOfPuts();
@@ -31,6 +32,31 @@ public final class LayersTest {
         }
         Runs.run("a new object", "new 2", "objects = UNMOUNTED", "entry 0 1 = 0", "entry 2 5555 = 0", "whiteouts = 0",
             "copies = 0", "mount = 1", "objects = 0", "size 0 = 0");
+    }
+
+    /** What one object is told, no other one knows: each is made as a new one and goes on as if it were alone. */
+    private static void objectsBesideEachOther() {
+        LayeredTree[] trees = new LayeredTree[3];
+        for (int i = 0; i < trees.length; i++) {
+            trees[i] = new LayeredTree(i + 1);
+            Runs.due("Promise 1: entries beside others", trees[i].entries(0), 0);
+            Runs.due("Promise 1: unmounted beside others", trees[i].kind(0), LayeredTree.UNMOUNTED);
+            trees[i].put(0, 1, 2, 0);
+            trees[i].put(0, 11, 1, 5);
+            trees[i].mount();
+            trees[i].write(11, 6);
+            trees[i].rename(1, 2);
+        }
+        trees[0].write(21, 7);
+        trees[1].makeDir(3);
+        trees[2].remove(21);
+        int[][] due = {{7, 2, 3, 2}, {6, 3, 4, 2}, {LayeredTree.NONE, 1, 2, 2}};
+        for (int i = 0; i < trees.length; i++) {
+            int[] got = {trees[i].read(21), trees[i].objects(), trees[i].entries(i + 1), trees[i].copies()};
+            for (int j = 0; j < got.length; j++) {
+                Runs.due("object " + i + " beside others, look " + j, got[j], due[i][j]);
+            }
+        }
     }
 
     private static void putting() {

@@ -1,6 +1,8 @@
 import java.util.ArrayList;
 import java.util.Arrays;
+import java.util.HashMap;
 import java.util.List;
+import java.util.Map;
 
 /**
  * All that can be seen of an object after some calls. An object is good for 512 calls only, so the calls are made again
@@ -10,6 +12,8 @@ final class Picture {
     static final int MOST_CALLS = 512;
     private static final int MOUNTED_BEFORE = 0;
     private static final List<Call> LOOKS = looks();
+    /** Where the answer of a call stands, by its name and its arguments. */
+    private static final Map<String, Map<Long, Integer>> INDEX = index();
 
     private final int[] answers = new int[LOOKS.size() + 1];
 
@@ -44,6 +48,11 @@ final class Picture {
         return Integer.toString(number).matches("[1-5]{1,4}");
     }
 
+    /** The answer of one of the calls that were looked with, as in answer("entry", 0, 12). */
+    int answer(String name, int... arguments) {
+        return answers[INDEX.get(name).get(key(arguments))];
+    }
+
     /** What differs first, as a text; empty when nothing does. */
     String differenceFrom(Picture other) {
         int at = Arrays.mismatch(answers, other.answers);
@@ -52,6 +61,23 @@ final class Picture {
         }
         String what = at == MOUNTED_BEFORE ? "mounted" : LOOKS.get(at - 1).toString();
         return what + " was " + other.answers[at] + ", is " + answers[at];
+    }
+
+    private static Map<String, Map<Long, Integer>> index() {
+        Map<String, Map<Long, Integer>> index = new HashMap<>();
+        for (int i = 0; i < LOOKS.size(); i++) {
+            Call look = LOOKS.get(i);
+            index.computeIfAbsent(look.name(), name -> new HashMap<>()).put(key(look.arguments()), i + 1);
+        }
+        return index;
+    }
+
+    private static long key(int[] arguments) {
+        long key = 0;
+        for (int argument : arguments) {
+            key = key * 10_000 + argument;
+        }
+        return key;
     }
 
     private static List<Call> looks() {

@@ -6,6 +6,7 @@ public final class TreeTest {
     public static void main(String[] args) {
         unmounted();
         noPaths();
+        namesInPaths();
         root();
         plainTree();
         higherLayersDecide();
@@ -41,6 +42,13 @@ public final class TreeTest {
                 "read " + path + " = NONE", "size " + path + " = NONE", "name " + path + " 0 = NONE",
                 "origin " + path + " = NONE");
         }
+    }
+
+    private static void namesInPaths() {
+        Runs.run("Terms: 132 is the object named 2 in the object named 3 in the object named 1", "new 1",
+            "put 0 1 2 0 = 1", "put 0 13 2 0 = 1", "put 0 132 1 7 = 1", "mount = 1", "size 0 = 1", "name 0 0 = 1",
+            "size 1 = 1", "name 1 0 = 3", "size 13 = 1", "name 13 0 = 2", "read 132 = 7", "kind 2 = 0", "kind 23 = 0",
+            "kind 231 = 0", "kind 3 = 0", "kind 12 = 0", "objects = 3");
     }
 
     private static void root() {
