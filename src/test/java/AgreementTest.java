@@ -13,9 +13,9 @@ import java.util.TreeMap;
  * shares with LayeredTree would show.
  */
 public final class AgreementTest {
-    private static final int RUNS = 240;
-    private static final int PUTS = 320;
-    private static final int REQUESTS = 14;
+    private static final int RUNS = 200;
+    private static final int PUTS = 400;
+    private static final int REQUESTS = 24;
     private static final List<Integer> PATHS = Picture.allPaths();
     private static final Set<String> MET = new HashSet<>();
 
@@ -32,12 +32,12 @@ public final class AgreementTest {
         random = new Random(seed);
         names = 2 + random.nextInt(4);
         upper = 1 + random.nextInt(3);
-        favouredLayer = random.nextInt(upper + 1);
+        favouredLayer = random.nextBoolean() ? upper : random.nextInt(upper + 1);
         tree = new LayeredTree(upper);
     }
 
     public static void main(String[] args) {
-        for (long seed = 1; seed <= RUNS; seed++) {
+        for (long seed = 1; seed <= RUNS && Runs.allAsDue(); seed++) {
             new AgreementTest(seed).run();
         }
         String[] answers = {"makeDir 0", "makeDir -11", "write 0", "write -11", "remove 0", "remove -11", "rename 0",
@@ -52,7 +52,8 @@ public final class AgreementTest {
         putSome();
         make(new Call("mount"));
         Picture before = new Picture(upper, calls);
-        for (int i = 0; i < REQUESTS; i++) {
+        // One disagreement brings many more with it, which would only be noise.
+        for (int i = 0; i < REQUESTS && Runs.allAsDue(); i++) {
             Call request = request(before);
             int answer = make(request);
             MET.add(request.name() + " " + answer);
@@ -96,17 +97,20 @@ public final class AgreementTest {
 
     private Call request(Picture now) {
         return switch (random.nextInt(5)) {
-            case 0 -> new Call("makeDir", path());
-            case 1 -> new Call("write", path(), random.nextInt(99));
-            case 2 -> new Call("remove", objectPath(now));
-            default -> new Call("rename", objectPath(now), path());
+            case 0 -> new Call("makeDir", path(now, 0));
+            case 1 -> new Call("write", path(now, random.nextInt(2)), random.nextInt(99));
+            case 2 -> new Call("remove", path(now, 1 + random.nextInt(2)));
+            default -> new Call("rename", path(now, 1 + random.nextInt(2)), path(now, random.nextInt(3)));
         };
     }
 
-    /** Mostly where an object is, since nothing else can be removed or moved. */
-    private int objectPath(Picture now) {
+    /** Mostly one where this kind of object is and whose parent is a directory, so that most requests are granted. */
+    private int path(Picture now, int kind) {
         int path = path();
-        for (int tries = 0; tries < 20 && now.answer("kind", path) == 0; tries++) {
+        for (int tries = 0; tries < 30; tries++) {
+            if (now.answer("kind", path) == kind && now.answer("kind", path / 10) == 2) {
+                return path;
+            }
             path = path();
         }
         return path;

@@ -56,6 +56,10 @@ final class Runs {
         }
     }
 
+    static boolean allAsDue() {
+        return wrong == 0;
+    }
+
     /** Joins groups of rows, so that runs can share a beginning. */
     static String[] rows(Object... groups) {
         return Arrays.stream(groups)
@@ -87,8 +91,8 @@ final class Runs {
     }
 
     static void end() {
-        System.out.println(wrong == 0 ? "all answers are as due" : wrong + " answers are not as due");
-        if (wrong != 0) {
+        System.out.println(allAsDue() ? "all answers are as due" : wrong + " answers are not as due");
+        if (!allAsDue()) {
             System.exit(1);
         }
     }
